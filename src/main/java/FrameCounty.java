@@ -1115,6 +1115,7 @@ public final class FrameCounty {
             return isWithin(c, 'a', 'z') ? LETTERS : isWithin(c, '0', '9') ? DIGITS : OTHERS;
         }
 
+        // A byte that is no sign needs no look here: as a token of its own it can stand nowhere.
         private int tokenOf(int from, int end) {
             if (from >= size) {
                 return END;
@@ -1122,14 +1123,7 @@ public final class FrameCounty {
             switch (sortOf(tape[from])) {
                 case LETTERS: return wordOf(from, end);
                 case DIGITS: return end - from <= MOST_DIGITS ? NUMBER : WRONG;
-                default: return isSign(tape[from]) ? tape[from] : WRONG;
-            }
-        }
-
-        private static boolean isSign(int c) {
-            switch (c) {
-                case '(': case ')': case ';': case '+': case '-': case '*': case '<': case '=': return true;
-                default: return false;
+                default: return tape[from];
             }
         }
 

@@ -32,7 +32,7 @@ public final class LanguageTest {
         methodsAreShort(code);
         face();
         classesInside();
-        callsMakeNothing();
+        callsMakeNothing(code);
         due.end();
     }
 
@@ -148,18 +148,10 @@ public final class LanguageTest {
     }
 
     /** All that a run makes is made by the constructor: its calls make no object. */
-    private static void callsMakeNothing() {
-        for (Matcher m = Pattern.compile("(?m)^( *)(.*\\bnew\\b.*)$").matcher(sourceOfCalls()); m.find();) {
+    private static void callsMakeNothing(String code) {
+        for (Matcher m = Pattern.compile("(?m)^( *)(.*\\bnew\\b.*)$").matcher(code); m.find();) {
             due.holds("made in a constructor or as a field: " + m.group(2), m.group(2).contains("private final")
                 || m.group(2).contains("texts[i] = new Text();"));
-        }
-    }
-
-    private static String sourceOfCalls() {
-        try {
-            return withoutTexts(Files.readString(Path.of("src/main/java/FrameCounty.java"), StandardCharsets.ISO_8859_1));
-        } catch (IOException e) {
-            return "new source";
         }
     }
 }

@@ -10,6 +10,7 @@ public final class NightsAndRoadsTest {
         promise4Far();
         promise4BrightNights();
         promise4FarRoundAbout();
+        promise4FarByEachVillage();
         due.end();
     }
 
@@ -118,5 +119,20 @@ public final class NightsAndRoadsTest {
         }
         due.is("the farthest in a bright night", chain.far(7, 0, 22), 63);
         due.is("the farthest in a dark night", chain.far(7, 0, 23), 70);
+    }
+
+    private static void promise4FarByEachVillage() {
+        for (int by = 0; by < 8; by++) {
+            FrameCounty x = new FrameCounty();
+            for (int v = 0; v < 8; v++) {
+                x.road(by, v, 1 + v);
+            }
+            for (int a = 0; a < 8; a++) {
+                for (int b = 0; b < 8; b++) {
+                    int want = a == b ? 0 : (a == by ? 0 : 1 + a) + (b == by ? 0 : 1 + b);
+                    due.is("far(" + a + ", " + b + ") by " + by, x.far(a, b, 8), want);
+                }
+            }
+        }
     }
 }

@@ -237,6 +237,18 @@ public final class RaidsTest {
         for (int[] o : only) {
             due.is("sends(" + o[0] + ")", x.sends(o[0]), o[1]);
         }
+        FrameCounty y = new FrameCounty();
+        y.shop(0, 1);
+        y.frame(0, 0, 60, 0);
+        int[] fitting = {61, 160, 259, 301, 400, 601, 700, 902, 903, 999, 1001, 1100, 1201, 1299, 1300};
+        for (int form = 0; form < 1500; form++) {
+            if (form / 100 % 3 == 0 && form % 100 > 90 || java.util.Arrays.binarySearch(fitting, form) >= 0) {
+                due.is("sends(" + form + ") of one plain frame", y.sends(form), 0);
+            }
+        }
+        for (int form : new int[] {0, 60, 161, 260, 300, 401, 500, 600, 701, 800, 901, 1000, 1002, 1101, 1200, 1301, 1400}) {
+            due.is("sends(" + form + ") of one plain frame", y.sends(form), FrameCounty.NONE);
+        }
         x.pays(0, 99);
         due.is("PAYS > 98", x.sends(1198), 0);
         due.is("PAYS = 99", x.sends(1099), 0);

@@ -31,6 +31,11 @@ public final class SoldiersOffersWeeksTest {
         due.is("reaches two", x.parties(1, 0, 0, 1), 2);
         due.is("two reach all", x.parties(2, 0, 0, 0), 64 + 4);
         due.is("all", x.parties(2, 0, 0, 1), 3);
+        FrameCounty each = new FrameCounty();
+        for (int v = 0; v < 8; v++) {
+            each.shop(v, 1);
+            due.is("one where the last shop is", each.parties(v + 1, 0, 0, 1), v + 1);
+        }
         due.is("three, as told, the least", x.parties(3, 0, 0, 0), 64 + 4 + 1);
         due.is("eight", x.parties(8, 0, 0, 0), 255);
         due.is("none", x.parties(0, 99, 0, 1), 0);
@@ -107,6 +112,8 @@ public final class SoldiersOffersWeeksTest {
         due.is("against(0, 1)", x.against(0, 1), 1);
         due.is("two of three go together", x.offer(0, 0), 6);
         due.is("against(1, 2)", x.against(1, 2), 1);
+        due.is("against(1, 2) again", x.against(1, 2), 0);
+        due.is("against(2, 1)", x.against(2, 1), 0);
         due.is("one alone", x.offer(0, 0), 1);
         due.is("two are not to be had", x.offer(2, 0), FrameCounty.NONE);
     }
