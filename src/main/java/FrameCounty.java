@@ -533,7 +533,7 @@ public final class FrameCounty {
     private int shopsReached(int set, int hours, int night) {
         int reached = 0;
         for (int s = 0; s < works.shops(); s++) {
-            if (roads.isNear(works.villageOf(s), set, hours, night)) {
+            if (roads.isReachedFromOne(set, works.villageOf(s), hours, night)) {
                 reached++;
             }
         }
@@ -575,12 +575,18 @@ public final class FrameCounty {
 
         int distance(int a, int b, int night) {
             int turn = night % MOON;
-            return isWithin(turn, BRIGHT_FIRST, BRIGHT_LAST) ? brightFar[a][b] : darkFar[a][b];
+            return turn >= BRIGHT_FIRST && turn <= BRIGHT_LAST ? brightFar[a][b] : darkFar[a][b];
         }
 
-        boolean isNear(int village, int set, int hours, int night) {
+        // Where there is no road, 99 is told of it: that is no number of hours, and no time is enough.
+        boolean isReached(int from, int to, int hours, int night) {
+            int far = distance(from, to, night);
+            return far != NO_ROAD && far <= hours;
+        }
+
+        boolean isReachedFromOne(int set, int village, int hours, int night) {
             for (int v = 0; v < VILLAGES; v++) {
-                if ((set >> v & 1) == 1 && distance(v, village, night) <= hours) {
+                if ((set >> v & 1) == 1 && isReached(v, village, hours, night)) {
                     return true;
                 }
             }
@@ -1355,12 +1361,13 @@ public final class FrameCounty {
         }
 
         boolean isPossible(int person, int village, int night, int hour, int known) {
-            if (hour < roads.distance(home[person], village, night)) {
+            if (!roads.isReached(home[person], village, hour, night)) {
                 return false;
             }
             for (int i = 0; i < seenMade; i++) {
                 boolean counts = seenWho[i] == person && seenNight[i] == night && seenKnown[i] <= known;
-                if (counts && Math.abs(hour - seenHour[i]) < roads.distance(seenWhere[i], village, night)) {
+                int between = Math.abs(hour - seenHour[i]);
+                if (counts && !roads.isReached(seenWhere[i], village, between, night)) {
                     return false;
                 }
             }

@@ -480,11 +480,11 @@ final class Model {
         for (int set = 0; set < 256; set++) {
             int reached = 0;
             for (int[] shop : shops) {
-                int least = 100;
+                boolean near = false;
                 for (int v = 0; v < 8; v++) {
-                    if ((set >> v & 1) == 1) least = Math.min(least, far[shop[0]][v]);
+                    near |= (set >> v & 1) == 1 && far[shop[0]][v] < 99 && far[shop[0]][v] <= hours;
                 }
-                if (least <= hours) reached++;
+                if (near) reached++;
             }
             if (Integer.bitCount(set) == n) all.add(new int[] {set, reached});
         }

@@ -178,7 +178,7 @@ public final class RandomRunsTest {
     private Object[] moreOfAll(String name) {
         int clauses = model.clauses.size();
         switch (name) {
-            case "parties": return new Object[] {pick(0, 4), pick(0, 25), pick(0, 399), pick(0, 1)};
+            case "parties": return new Object[] {pick(0, 4), partiesHours(), pick(0, 399), pick(0, 1)};
             case "clause": return new Object[] {pick(-9, 9), pick(-9, 9)};
             case "against": return new Object[] {pick(0, clauses - 1), pick(0, clauses - 1)};
             case "offer": return new Object[] {pick(-20, 10), pick(-10, 10)};
@@ -191,6 +191,10 @@ public final class RandomRunsTest {
             case "paysRow": return new Object[] {pick(0, 3), pick(0, 2), pick(0, 5), pick(0, 8)};
             default: return new Object[] {frame(), pick(0, 5)};
         }
+    }
+
+    private int partiesHours() {
+        return random.nextInt(4) == 0 ? pick(98, 99) : pick(0, 25);
     }
 
     private long row() {

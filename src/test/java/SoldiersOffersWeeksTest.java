@@ -6,6 +6,8 @@ public final class SoldiersOffersWeeksTest {
     public static void main(String[] args) {
         promise34Parties();
         promise34Far();
+        promise34NoRoad();
+        promise34LongestWay();
         promise35Clause();
         promise36Against();
         promise37Offer();
@@ -71,7 +73,52 @@ public final class SoldiersOffersWeeksTest {
         due.is("dark, 5 hours, two reach", x.parties(2, 5, 0, 1), 4);
         due.is("by two roads", x.parties(1, 7, 10, 0), 2);
         due.is("no road is farther than 98 hours", x.parties(1, 98, 10, 1), 3);
-        due.is("FAR is 99 where there is none", x.parties(1, 99, 10, 1), 4);
+        due.is("nor than 99 hours: there is none", x.parties(1, 99, 10, 1), 3);
+        due.is("99 hours, two reach", x.parties(2, 99, 10, 1), 4);
+        due.is("99 hours, two", x.parties(2, 99, 10, 0), 2 + 128);
+    }
+
+    /** 99 is told of FAR where there is no road: a party of 99 hours doesn't come there. */
+    private static void promise34NoRoad() {
+        for (int night : new int[] {0, 10, 399}) {
+            for (int hours : new int[] {0, 9, 98, 99}) {
+                for (int village = 0; village < 8; village++) {
+                    FrameCounty x = new FrameCounty();
+                    x.shop(village, 0);
+                    String told = " of village " + village + ", " + hours + " hours, night " + night;
+                    due.is("none" + told, x.parties(0, hours, night, 1), 0);
+                    due.is("the one" + told, x.parties(1, hours, night, 0), 1 << village);
+                    due.is("its shop" + told, x.parties(1, hours, night, 1), 1);
+                    due.is("all" + told, x.parties(8, hours, night, 1), 1);
+                }
+            }
+        }
+        FrameCounty x = new FrameCounty();
+        x.shop(5, 1);
+        x.shop(6, 1);
+        due.is("no road yet", x.parties(1, 99, 0, 1), 1);
+        x.road(5, 6, 9);
+        due.is("a road", x.parties(1, 99, 0, 1), 2);
+        due.is("of like ones the least", x.parties(1, 99, 0, 0), 32);
+        x.road(5, 6, 99);
+        due.is("the road is taken away", x.parties(1, 99, 0, 1), 1);
+    }
+
+    /** The longest way that can be stays below 99 hours: seven roads of 10. */
+    private static void promise34LongestWay() {
+        FrameCounty x = new FrameCounty();
+        for (int v = 0; v < 7; v++) {
+            x.road(v, v + 1, 9);
+        }
+        x.shop(0, 1);
+        x.shop(7, 1);
+        due.is("dark, 69 hours: not from end to end", x.parties(1, 69, 0, 0), 2);
+        due.is("dark, 70 hours", x.parties(1, 70, 0, 0), 1);
+        due.is("bright, 62 hours: not from end to end", x.parties(1, 62, 10, 0), 2);
+        due.is("bright, 63 hours", x.parties(1, 63, 10, 0), 1);
+        due.is("dark, 39 hours: from nowhere to both", x.parties(1, 39, 0, 1), 1);
+        due.is("dark, 40 hours", x.parties(1, 40, 0, 1), 2);
+        due.is("99 hours", x.parties(1, 99, 0, 0), 1);
     }
 
     private static void promise35Clause() {
