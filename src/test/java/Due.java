@@ -1,6 +1,7 @@
 /** Counts the answers that are not the ones that are due. */
 final class Due {
     private final String test;
+    private String part = "";
     private int asked;
     private int wrong;
 
@@ -8,16 +9,25 @@ final class Due {
         this.test = test;
     }
 
+    /** What comes now is told under this name. */
+    void under(String name) {
+        part = name.isEmpty() ? "" : " " + name;
+    }
+
     void is(String call, long got, long want) {
         asked++;
         if (got != want) {
             wrong++;
-            System.out.println(test + ": " + call + " answered " + got + ", due is " + want);
+            System.out.println(test + part + ": " + call + " answered " + got + ", due is " + want);
         }
     }
 
     void holds(String what, boolean is) {
         is(what, is ? 1 : 0, 1);
+    }
+
+    int wrong() {
+        return wrong;
     }
 
     /** Ends the machine with exit code 1, if an answer was wrong. */

@@ -1,3 +1,6 @@
+import java.util.ArrayList;
+import java.util.List;
+
 /** Feeds texts to the tape. */
 final class Tape {
     private Tape() {
@@ -11,6 +14,16 @@ final class Tape {
             last = x.feed(n, bytes(text, from, n));
         }
         return last;
+    }
+
+    /** The calls that feed all characters, eight at a time. */
+    static List<String> calls(String text) {
+        List<String> calls = new ArrayList<>();
+        for (int from = 0; from < text.length(); from += 8) {
+            int n = Math.min(8, text.length() - from);
+            calls.add("feed(" + n + ", " + bytes(text, from, n) + ")");
+        }
+        return calls;
     }
 
     static long bytes(String text, int from, int n) {
