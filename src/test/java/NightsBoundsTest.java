@@ -168,6 +168,16 @@ public final class NightsBoundsTest {
         x.due("road(7, 0, 9)", 99).due("far(0, 7, 8)", 9).due("far(0, 4, 8)", 36).due("far(0, 4, 0)", 40);
     }
 
+    // Each village alone between two others, the first and the last one, too
+    static void promise04ByEachVillage() {
+        for (int by = 0; by < 8; by++) {
+            int a = (by + 1) % 8;
+            int b = (by + 7) % 8;
+            run().then("road(" + a + ", " + by + ", 9)", "road(" + by + ", " + b + ", 1)").due("far(" + a + ", " + b + ", 8)", 10)
+                .due("far(" + b + ", " + a + ", 0)", 12);
+        }
+    }
+
     static void promise04AllRoads() {
         Run x = run();
         for (int a = 0; a < 8; a++) {

@@ -84,6 +84,18 @@ public final class RaidsBoundsTest {
             .then("raid(3, 0)").due("pattern(1)", 2 + 4).then("mend(0, 0)").due("pattern(1)", 0).due("pattern(0)", 8);
     }
 
+    // In each shop, the first and the last one, too
+    static void promise17SparedInEachShop() {
+        for (int s = 0; s < 8; s++) {
+            Run x = run().times(8, "shop(0, 0)");
+            for (int f = 0; f < 16; f++) {
+                x.then("frame(0, " + f % 8 + ", 10, 0)");
+            }
+            x.then("raid(" + (8 + s) + ", 0)").due("pattern(0)", 256 << s).due("pattern(1)", 1 << s)
+                .then("raid(" + (7 - s) + ", 0)").due("pattern(1)", 1 << s | 256 << 7 - s);
+        }
+    }
+
     // "0, if nothing is STRUCK"
     static void promise18NothingStruck() {
         run().due("left()", 0).due("form(0)", NONE);

@@ -127,6 +127,19 @@ public final class TextsBoundsTest {
             .ask("says(0, 0)"), 73);
     }
 
+    // Each byte of a full tape is a TOKEN, and its end is one more.
+    static void promise13AsManyTokensAsBytes() {
+        for (String one : new String[] {";", "(", ")", "-", "+", "*", "<", "=", "#"}) {
+            fault(one.repeat(160), 0);
+            fault("price " + one.repeat(154), one.equals("(") || one.equals("-") ? 11 : 6);
+            fault("price 1;" + one.repeat(152), 8);
+            fault(SHORT + one.repeat(145), 15);
+        }
+        fault("price(((((" + "-".repeat(150), 10);
+        fault("price 1" + "+".repeat(153), 8);
+        fault("price 1" + "-".repeat(153), 13);
+    }
+
     // "blanks (32, 10) may stand between"; "a byte that begins none": each byte behind a whole text
     static void promise13EachByteBehindAText() {
         for (int b = 0; b < 256; b++) {
@@ -293,6 +306,30 @@ public final class TextsBoundsTest {
             x.feed("price " + i + ";hold;").due("text()", i < 10 ? FAULT - 12 : FAULT - 13).due("count(10)", 1);
         }
         x.feed(SHORT).due("text()", 1).due("count(10)", 2).due("force(2)", BAD).due("count(12)", 0);
+    }
+
+    // Nor does anything stay of a text that has one, be it ever so long.
+    static void promise13NothingStaysOfAFault() {
+        Run x = run().then("shop(0, 0)", "frame(0, 0, 10, 0)", "person(0)");
+        for (int i = 0; i < 4; i++) {
+            x.feed("price 3" + "+1".repeat(70) + ";hold 4 5").due("text()", FAULT - 155).feed("price 3;hold " + "4*".repeat(70))
+                .due("text()", FAULT - 153);
+        }
+        x.list("price 1;hold 2;").due("says(0, 0)", 1).due("says(1, 0)", 2).feed("price 9;hold").due("text()", FAULT - 12)
+            .due("says(0, 0)", 1).due("says(1, 0)", 2).list("price 7+kind;hold 8+week;").due("says(0, 0)", 7).due("says(1, 0)", 8)
+            .due("force(1)", 2).due("says(0, 0)", 1).due("says(1, 0)", 2).due("force(0)", 1).due("says(0, 0)", 20)
+            .due("says(1, 0)", 0);
+    }
+
+    // "TEXT 0, at first THE LIST, is: price 10 + width ; hold 1 < words ;"
+    static void promise14TheFirstList() {
+        Run x = run().then("shop(0, 0)", "frame(0, 0, 10, 99)", "frame(5, 0, 60, 0)", "person(0)", "raid(0, 11)").nights(20)
+            .due("says(0, 0)", 20).due("says(0, 1)", 70).due("keeps(0)", 0).due("pays(0, 69)", 0).due("keeps(0)", 0)
+            .due("pays(0, 70)", 69).due("keeps(0)", 1);
+        for (int w = 0; w < 24; w++) {
+            x.due("says(1, 0)", w > 1 ? 1 : 0).then("word(0, 0, 0, 999)");
+        }
+        x.due("says(1, 0)", 1).list("price 0;hold 0;").due("says(1, 0)", 0).due("force(0)", 1).due("says(1, 0)", 1);
     }
 
     static void promise14FirstAndLastText() {
