@@ -111,7 +111,7 @@ final class Counties {
             put("meeting(" + i % 12 + ", " + (i % 12 + 1 + i % 11) % 12 + ", " + night + ")", i + 1);
         }
         for (int i = 8 * third; i < 8 * third + 8; i++) {
-            put("word(" + i % 6 + ", " + i * 5 % 12 + ", " + (i + third) + ", " + 999 * (i % 2) + ")", i);
+            put("word(" + i % 6 + ", " + (i * 5 + 10) % 12 + ", " + (i + third) + ", " + 999 * (i % 2) + ")", i);
         }
     }
 

@@ -136,7 +136,7 @@ public final class EdgesTest {
 
     static void promise06() {
         edge("pays(?, 7)", 0, 40, 3, 0, BAD);
-        edge("pays(2, ?)", 0, 99, 99, 99, BAD);
+        edge("pays(0, ?)", 0, 40, 99, 40, BAD);
     }
 
     static void promise07() {
@@ -281,6 +281,7 @@ public final class EdgesTest {
     static void promise31() {
         edge("taker(?, 5)", 0, -1, 4, 40, NO_TAKER);
         edge("taker(0, ?)", -1, -1, 399, -1, NO_TAKER);
+        edge("taker(4, ?)", -1, 40, 399, 40, NO_TAKER);
     }
 
     static void promise32() {

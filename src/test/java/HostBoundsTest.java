@@ -243,6 +243,17 @@ public final class HostBoundsTest {
         }
     }
 
+    // Outside is outside, though there is no SHOP for what would stand there.
+    static void promise44OutsideWithoutAShop() {
+        for (int shops = 0; shops < 4; shops++) {
+            Run x = fill(shops(shops), 0, 1, 1, 2, 3).due("paysRow(0, 1, 0, 4)", OUTSIDE).due("paysRow(0, 1, 0, 8)", OUTSIDE)
+                .due("paysRow(0, 1, 3, 1)", OUTSIDE).due("paysRow(0, 1, 0, 3)", shops);
+            for (int s = 0; s < shops; s++) {
+                x.due("pays(" + s + ", 5)", s + 1);
+            }
+        }
+    }
+
     static void promise44FromFarOutside() {
         Run x = fill(shops(8), 0, 2, 1, 2, 3);
         for (String from : new String[] {"min", "-2147483647", "-9", "-8", "-1", "3", "2147483640", "2147483646", "max"}) {

@@ -30,6 +30,12 @@ public final class OathsBoundsTest {
             .due("sworn(1, 398)", 3).due("sworn(1, 399)", 7).due("meeting(0, 1, 0)", FULL);
     }
 
+    // One more of an earlier night is FULL, too, and none of those that are told becomes one of it.
+    static void promise30FullKeepsTheNights() {
+        persons(3, 1).times(39, "meeting(0, 1, 0)").due("meeting(1, 2, 1)", 40).due("sworn(1, 0)", 3).due("meeting(0, 2, 0)", FULL)
+            .due("sworn(1, 0)", 3).due("sworn(1, 1)", 7).due("meeting(0, 2, 1)", FULL).due("sworn(4, 1)", 6).due("sworn(4, 0)", 4);
+    }
+
     // "two PERSONS in a NIGHT (NIGHT at most)", "BAD: one and itself, too"
     static void promise30ThisNightAndTheNext() {
         for (int night : new int[] {0, 1, 399}) {

@@ -44,7 +44,7 @@ public final class ShopsBoundsTest {
     static void promise06LeastAndMost() {
         run().then("shop(0, 50)").due("pays(0, 0)", 50).due("pays(0, 99)", 0).due("pays(0, 99)", 99).due("pays(0, 100)", BAD)
             .due("pays(0, -1)", BAD).due("pays(0, min)", BAD).due("pays(0, max)", BAD).due("pays(0, 0)", 99)
-            .due("pays(0, 1)", 0);
+            .due("pays(0, 1)", 0).due("pays(0, 100)", BAD).due("pays(0, -1)", BAD).due("pays(0, 50)", 1);
     }
 
     static void promise06FirstAndLastShop() {
