@@ -1,3 +1,7 @@
+import java.util.ArrayList;
+import java.util.Collections;
+import java.util.List;
+
 /** All places are taken: the last ones are there as the first ones are, and one more is FULL and changes nothing. */
 public final class AllPlacesTakenTest {
     private static final Due due = new Due("AllPlacesTakenTest");
@@ -13,13 +17,23 @@ public final class AllPlacesTakenTest {
         return new Run(due).then(Counties.FULL);
     }
 
-    /** Refused, and all is told as before. */
     private static void refused(String call, long refusal) {
+        refused(Counties.FULL, call, refusal);
+    }
+
+    /** Refused, and all is told as before. */
+    private static void refused(List<String> made, String call, long refusal) {
         for (int part = 0; part < Tellings.PARTS.size(); part++) {
-            FrameCounty x = Counties.made(Counties.FULL);
+            FrameCounty x = Counties.made(made);
             due.is(call, Call.of(call).on(x), refusal);
-            due.holds("all is as it was behind " + call, Tellings.isAsMade(x, Counties.FULL, part));
+            due.holds("all is as it was behind " + call, Tellings.isAsMade(x, made, part));
         }
+    }
+
+    private static List<String> someAnd(List<String> more) {
+        List<String> made = new ArrayList<>(Counties.SOME);
+        made.addAll(more);
+        return made;
     }
 
     static void promise01EachPlaceIsTaken() {
@@ -38,6 +52,13 @@ public final class AllPlacesTakenTest {
         refused("pass(60)", FULL);
         refused("pass(0)", BAD);
         refused("pass(61)", BAD);
+    }
+
+    // There is room for some NIGHTS, but not for so many: none goes by.
+    static void promise02NoRoomForSoMany() {
+        List<String> night340 = someAnd(Collections.nCopies(5, "pass(60)"));
+        refused(night340, "pass(60)", FULL);
+        due.is("pass(59)", Call.of("pass(59)").on(Counties.made(night340)), 399);
     }
 
     static void promise05NoShopMore() {
@@ -74,6 +95,14 @@ public final class AllPlacesTakenTest {
         }
         refused("feed(0, 0)", BAD);
         refused("feed(9, 0)", BAD);
+    }
+
+    // There is room for some bytes, but not for so many: none comes.
+    static void promise12NoRoomForSoMany() {
+        List<String> bytes155 = someAnd(Collections.nCopies(19, "feed(8, 2314885530818453536)"));
+        refused(bytes155, "feed(6, 0)", FULL);
+        refused(bytes155, "feed(8, -1)", FULL);
+        due.is("feed(5, 0)", Call.of("feed(5, 0)").on(Counties.made(bytes155)), 160);
     }
 
     static void promise13NoTextMore() {

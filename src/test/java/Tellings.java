@@ -11,14 +11,18 @@ import java.util.function.IntFunction;
 final class Tellings {
     static final List<List<String>> PARTS = List.of(shops(), frames(), nightsAndRoads(), raids(), persons(), words(),
         oaths(), bargains(), newOnes(), texts(), sheets(0), sheets(2));
-    private static final Map<String, long[]> TOLD = new HashMap<>();
+    private static final Map<Made, long[]> TOLD = new HashMap<>();
+
+    /** A part of what a county tells that these calls make. */
+    private record Made(List<String> calls, int part) {
+    }
 
     private Tellings() {
     }
 
     /** Whether a county tells all of a part as one does that is made by the same calls, without what came behind. */
     static boolean isAsMade(FrameCounty county, List<String> made, int part) {
-        long[] want = TOLD.computeIfAbsent(made.size() + " " + part, key -> tell(Counties.made(made), part));
+        long[] want = TOLD.computeIfAbsent(new Made(made, part), key -> tell(Counties.made(made), part));
         return java.util.Arrays.equals(want, tell(county, part));
     }
 
