@@ -6,6 +6,7 @@ import java.util.List;
 /**
  * All promises: each call with each choice of its arguments among the least, the greatest and those about 0, in a new,
  * in some and in the full county: nothing is thrown, and what is answered is what the Model answers.
+ * So is all that these counties tell.
  */
 public final class WildNumbersTest {
     private static final Due due = new Due("WildNumbersTest");
@@ -18,6 +19,9 @@ public final class WildNumbersTest {
                 List<Object[]> all = new ArrayList<>();
                 choose(call.getParameterTypes(), new ArrayList<>(), all);
                 askInTurn(c, call, all);
+            }
+            for (List<String> part : Tellings.PARTS) {
+                tellAll(c, part);
             }
         }
         due.end();
@@ -60,11 +64,23 @@ public final class WildNumbersTest {
         }
     }
 
+    private static void tellAll(int c, List<String> part) throws Exception {
+        FrameCounty county = Counties.made(Counties.ALL.get(c));
+        Model model = modelOf(Counties.ALL.get(c));
+        for (String text : part) {
+            due.is("in " + Counties.NAMES[c] + " " + text, Call.of(text).on(county), answer(model, Call.of(text)));
+        }
+    }
+
+    private static long answer(Model model, Call call) throws Exception {
+        Method other = Model.class.getMethod(call.method().getName(), call.method().getParameterTypes());
+        return ((Number) other.invoke(model, call.arguments())).longValue();
+    }
+
     private static Model modelOf(List<String> made) throws Exception {
         Model model = new Model();
         for (String text : made) {
-            Call call = Call.of(text);
-            Model.class.getMethod(call.method().getName(), call.method().getParameterTypes()).invoke(model, call.arguments());
+            answer(model, Call.of(text));
         }
         return model;
     }
