@@ -94,6 +94,14 @@ public final class PersonsBoundsTest {
         }
     }
 
+    // The night that is asked for tells how far these are: known in a brighter one, and in a darker one
+    static void promise23FarInThatNightFromWhereSeen() {
+        run().nights(10).then("person(0)", "road(0, 1, 3)", "seen(0, 1, 5, 4)").due("canBe(0, 0, 507, 10)", 0)
+            .due("canBe(0, 0, 508, 10)", 1).due("canBe(0, 0, 501, 10)", 0).due("canBe(0, 0, 500, 10)", 1);
+        run().nights(25).then("person(0)", "road(0, 1, 3)", "seen(0, 1, 10, 4)").due("canBe(0, 0, 1006, 25)", 0)
+            .due("canBe(0, 0, 1007, 25)", 1).due("canBe(0, 0, 1002, 25)", 0).due("canBe(0, 0, 1001, 25)", 1);
+    }
+
     // Seen in the same hour at two places no place is left, though each alone could be.
     static void promise23SeenTwiceInOneHour() {
         run().then("person(0)", "road(0, 1, 1)", "seen(0, 0, 0, 5)", "seen(0, 1, 0, 5)").due("canBe(0, 0, 5, 0)", 0)
@@ -158,6 +166,21 @@ public final class PersonsBoundsTest {
             .due("suspects(0, 0)", 1);
         raided(23, 5).then("person(1)", "road(0, 1, 5)").due("suspects(0, 23)", 0).then("pass(20)").due("suspects(0, 43)", 0)
             .then("road(0, 1, 4)").due("suspects(0, 43)", 1);
+    }
+
+    // Each RAID has its own FRAME, NIGHT and HOUR, where frames, shops and villages are numbered in other orders.
+    static void promise24RaidsInAnotherOrderThanFrames() {
+        Run x = run().then("shop(6, 0)", "shop(0, 0)", "shop(3, 0)", "frame(0, 2, 10, 0)", "frame(0, 0, 10, 0)",
+            "frame(0, 1, 10, 0)", "road(6, 1, 6)", "road(0, 5, 4)", "road(3, 4, 8)");
+        for (int home : new int[] {6, 0, 3, 1, 5, 4}) {
+            x.then("person(" + home + ")");
+        }
+        x.then("raid(1, 7)", "pass(1)", "raid(2, 5)", "pass(1)", "raid(0, 9)").due("suspects(0, 2)", 1 + 8)
+            .due("suspects(1, 2)", 2 + 16).due("suspects(2, 2)", 4 + 32);
+        x.then("seen(0, 7, 1, 7)", "seen(1, 7, 2, 5)", "seen(2, 7, 0, 9)", "seen(3, 7, 2, 0)").due("suspects(0, 2)", 1 + 8)
+            .due("suspects(1, 2)", 2 + 16).due("suspects(2, 2)", 4 + 32);
+        x.then("seen(0, 7, 0, 11)").due("suspects(0, 2)", 8).then("seen(1, 7, 1, 11)").due("suspects(1, 2)", 16)
+            .then("seen(2, 7, 2, 11)").due("suspects(2, 2)", 32);
     }
 
     // "WORDS (24 at most, numbered from 0)", "an INFORMER (0 .. 5)", "paid 0 .. 999"

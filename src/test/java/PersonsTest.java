@@ -16,6 +16,7 @@ public final class PersonsTest {
         promise28Held();
         promise28HeldByAnotherText();
         promise29Hangs();
+        promise29HeldOnlyWithoutTheWords();
         due.end();
     }
 
@@ -306,15 +307,34 @@ public final class PersonsTest {
         x.word(4, 1, 1, 1);
         due.is("hangs(2, 11)", x.hangs(2, 11), 0);
         due.is("hangs(2, 10) as known then", x.hangs(2, 10), 2);
-        Tape.feed(x, "price 0;hold words = 0;");
-        x.force(x.text());
-        due.is("held without words", x.held(10), 8);
-        due.is("who is held just without them doesn't hang", x.hangs(0, 10), 0);
         for (int wild : new int[] {Integer.MIN_VALUE, -1, 6, Integer.MAX_VALUE}) {
             due.is("hangs(" + wild + ", 0)", x.hangs(wild, 0), FrameCounty.BAD);
         }
         for (int wild : new int[] {Integer.MIN_VALUE, -1, 12, Integer.MAX_VALUE}) {
             due.is("hangs(0, " + wild + ")", x.hangs(0, wild), FrameCounty.BAD);
         }
+    }
+
+    /** "those HELD who wouldn't be": who is not held, but would be without one's words, doesn't hang on that one. */
+    private static void promise29HeldOnlyWithoutTheWords() {
+        FrameCounty x = county();
+        x.word(0, 0, 1, 1);
+        x.word(0, 1, 0, 1);
+        x.word(1, 1, 1, 1);
+        x.word(2, 2, 1, 1);
+        x.word(3, 2, 0, 1);
+        Tape.feed(x, "price 0;hold words = 0;");
+        x.force(x.text());
+        due.is("held without words", x.held(10), 8);
+        due.is("of one word, without it", x.hangs(0, 10), 0);
+        due.is("of one true word, without it", x.hangs(2, 10), 0);
+        due.is("of no word, without others'", x.hangs(5, 10), 0);
+        Tape.feed(x, "price 0;hold words = 1;");
+        x.force(x.text());
+        due.is("held by one word", x.held(10), 1 + 4);
+        due.is("one hangs, another would be held without", x.hangs(0, 10), 1);
+        due.is("of two words, without one", x.hangs(1, 10), 0);
+        due.is("on the one true word", x.hangs(2, 10), 4);
+        due.is("not on the false one", x.hangs(3, 10), 0);
     }
 }

@@ -278,6 +278,32 @@ public final class TextsBoundsTest {
         fault("price 1------(1);hold 1;", 13);
     }
 
+    // What the operands ahead of one opened is closed there; what stands around all of them is open.
+    static void promise13FiveOpenInEachOperand() {
+        for (String sign : new String[] {" or ", " and ", "<", "=", "+", "-", "*"}) {
+            int operands = sign.equals("<") || sign.equals("=") ? 2 : 4;
+            for (int place = 0; place < operands; place++) {
+                for (int around = 0; around <= 5; around++) {
+                    fiveOpenInOperand(sign, operands, place, around);
+                }
+            }
+        }
+    }
+
+    private static void fiveOpenInOperand(String sign, int operands, int place, int around) {
+        String ahead = "price " + "(".repeat(around) + ("1" + sign).repeat(place);
+        String behind = (sign + "1").repeat(operands - 1 - place) + ")".repeat(around) + ";hold 1;";
+        int more = 5 - around;
+        text(ahead + "(".repeat(more) + "1" + ")".repeat(more) + behind, 1);
+        text(ahead + "-".repeat(more) + "1" + behind, 1);
+        fault(ahead + "(".repeat(more + 1) + "1" + ")".repeat(more + 1) + behind, ahead.length() + more);
+        fault(ahead + "-".repeat(more + 1) + "1" + behind, ahead.length() + more);
+        if (sign.equals(" or ") || sign.equals(" and ")) {
+            text(ahead + "not ".repeat(more) + "1" + behind, 1);
+            fault(ahead + "not ".repeat(more + 1) + "1" + behind, ahead.length() + 4 * more);
+        }
+    }
+
     // Depth of the price does not count for the hold.
     static void promise13DepthOfBothParts() {
         text("price (((((1)))));hold (((((1)))));", 1);
