@@ -104,6 +104,27 @@ public final class OathsBoundsTest {
         }
     }
 
+    // "by NIGHTS": of five nights, in each of the 120 orders in which they can be told
+    static void promise32ByNightsInWhateverOrderTold() {
+        String[] meetings = {"meeting(0, 1, 0)", "meeting(1, 2, 3)", "meeting(2, 3, 4)", "meeting(3, 4, 7)", "meeting(4, 5, 9)"};
+        tellAll(meetings, meetings.length);
+    }
+
+    /** Tells the meetings with the first n of them in each order. */
+    private static void tellAll(String[] meetings, int n) {
+        if (n == 0) {
+            persons(6, 9).then(meetings).due("sworn(1, 9)", 63).due("sworn(32, 9)", 32 + 16).due("sworn(8, 9)", 4 + 8 + 16 + 32)
+                .due("sworn(2, 4)", 15).due("sworn(16, 8)", 8 + 16).due("sworn(1, 2)", 3);
+            return;
+        }
+        for (int i = 0; i < n; i++) {
+            String[] other = meetings.clone();
+            other[i] = meetings[n - 1];
+            other[n - 1] = meetings[i];
+            tellAll(other, n - 1);
+        }
+    }
+
     // "in one by the order in which they were told"
     static void promise32InOneNightInTheirOrder() {
         Run x = persons(12, 0);

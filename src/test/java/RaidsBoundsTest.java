@@ -143,6 +143,16 @@ public final class RaidsBoundsTest {
             .then("raid(1, 0)").due("left()", 500);
     }
 
+    // What was broken in the night ahead, is hidden or is another shop's, is neither STRUCK nor SPARED: forms may fit it or not.
+    static void promise18JustStruckAndSparedOnesCount() {
+        run().then("shop(0, 0)", "shop(0, 0)", "frame(0, 0, 10, 0)", "frame(0, 0, 20, 0)", "frame(0, 1, 30, 0)",
+            "frame(0, 0, 40, 0)", "frame(0, 0, 25, 0)", "raid(0, 0)", "pass(1)", "mend(1, 2)", "raid(4, 0)")
+            .due("pattern(0)", 16).due("pattern(1)", 8).due("left()", 16).due("form(0)", 26).due("form(14)", 40)
+            .due("form(15)", 125).due("form(16)", NONE).then("mend(0, 0)").due("pattern(1)", 1 + 8).due("left()", 1)
+            .due("form(0)", 125).then("raid(3, 0)").due("left()", 15).due("form(0)", 210).due("form(14)", 224)
+            .due("form(15)", NONE).then("pass(1)").due("left()", 0);
+    }
+
     // "NONE: none such"
     static void promise19FirstAndLast() {
         alone(0, 0, 0, 10, 0).then("raid(0, 0)").due("form(0)", 11).due("form(499)", 1300).due("form(500)", NONE)

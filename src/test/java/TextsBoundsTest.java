@@ -118,6 +118,11 @@ public final class TextsBoundsTest {
     static void promise13LongestTexts() {
         text("price 1" + "+1".repeat(72) + ";hold 2; ", 1);
         text("price 1" + "*2".repeat(72) + " ;hold 2;", 1);
+        text("price 1" + "-1".repeat(72) + ";hold 2\n;", 1);
+        text("price 1" + " or 1".repeat(29) + ";hold 2;", 1);
+        text("price 1;hold 2" + " or 1".repeat(29) + ";", 1);
+        text("price 1" + " and 1".repeat(24) + "; hold 2;", 1);
+        text("price 1;hold 2" + " and 1".repeat(24) + "\n;", 1);
         text("price " + "9999+".repeat(28) + "999;hold 2;", 1);
         text(" ".repeat(145) + SHORT, 1);
         text("price" + "\n".repeat(146) + "1;hold 2;", 1);
